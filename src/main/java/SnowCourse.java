@@ -594,15 +594,15 @@ public final class SnowCourse {
             return power;
         }
 
-        /** What s pounds bring in the mean by the best, times tens(days); days is 6 at most. */
-        static long sealedWorth(int s, int days, int p) {
-            long unit = tens(days - 1);
-            long warm = 5 * s * unit;
-            long calm = 3 * s * unit;
-            if (days > 1) {
-                warm = Math.max(warm, sealedWorth(Melt.opened(s), days - 1, p));
-                calm = Math.max(calm, sealedWorth(s, days - 1, p));
+        /** What s pounds bring in the mean by the best, times tens(days). */
+        private static long sealedWorth(int s, int days, int p) {
+            // Behind the last day nothing can be had any more, so on it all is sold.
+            if (days < 1 || days > MOST_DAYS) {
+                return 0;
             }
+            long unit = tens(days - 1);
+            long warm = Math.max(5 * s * unit, sealedWorth(Melt.opened(s), days - 1, p));
+            long calm = Math.max(3 * s * unit, sealedWorth(s, days - 1, p));
             return p * warm + (10 - p) * calm;
         }
 
@@ -1095,10 +1095,17 @@ public final class SnowCourse {
 
         /** Marks all that comes of what is marked by going and resting. */
         void spread(Country country, int kind, int straw) {
-            // Time goes on and snow grows never more, so in this order all is marked ahead of its turn.
+            // Time goes on and snow never grows, so in this order all is marked ahead of its turn.
             for (int snow = MOST_SNOW; snow >= 0; snow--) {
-                if (isAnywhere(snow)) {
-                    spreadOf(country, snow, kind, straw);
+                if (!isAnywhere(snow)) {
+                    continue;
+                }
+                for (int hour = 0; hour < LAST_HOUR; hour++) {
+                    for (int place = 0; place < country.places; place++) {
+                        if ((hours[place * AMOUNTS + snow] >> hour & 1) != 0) {
+                            leave(country, place, hour, snow, kind, straw);
+                        }
+                    }
                 }
             }
         }
@@ -1111,18 +1118,8 @@ public final class SnowCourse {
             return all != 0;
         }
 
-        private void spreadOf(Country country, int snow, int kind, int straw) {
-            for (int hour = 0; hour < LAST_HOUR; hour++) {
-                for (int place = 0; place < country.places; place++) {
-                    if ((hours[place * AMOUNTS + snow] >> hour & 1) != 0) {
-                        mark(place, hour + 1, country.afterHourIn(place, snow, hour, kind, straw));
-                        leave(country, place, hour, snow, kind, straw);
-                    }
-                }
-            }
-        }
-
         private void leave(Country country, int place, int hour, int snow, int kind, int straw) {
+            mark(place, hour + 1, country.afterHourIn(place, snow, hour, kind, straw));
             for (int road = 0; road < country.roads; road++) {
                 int arrival = hour + country.roadHours[road];
                 if (country.touches(road, place) && arrival <= LAST_HOUR) {

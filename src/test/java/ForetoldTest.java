@@ -4,6 +4,7 @@ final class ForetoldTest {
 
     public static void main(String[] args) {
         comes();
+        fullCarts();
         straw();
         meet();
         meetOfTooMuch();
@@ -65,6 +66,17 @@ final class ForetoldTest {
         // 40 - 14 = 26 in the cellar; then 26 - 6 = 20, - 5 = 15.
         Check.due("comes behind noon", z.comes(0, 1, 0), 15);
         Check.due("comes behind noon, soonest", z.comes(0, 1, 1), 18);
+    }
+
+    private static void fullCarts() {
+        SnowCourse x = Check.told("mountain;cart 0 0;stamped 0 3");
+        x.fill(0, 99);
+        x.rest(0, 46);
+        x.fill(0, 99);
+        // 99 89 79 in hours 46 47 48
+        Check.due("comes of 99, unlike", x.comes(0, 0, 2), 3);
+        Check.due("straw of 99", x.straw(0, 0, 99, 46), 0);
+        Check.due("straw of 99 by hour 45", x.straw(0, 0, 99, 45), NONE);
     }
 
     private static void straw() {

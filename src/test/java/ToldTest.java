@@ -11,6 +11,7 @@ final class ToldTest {
         faultsOnTopOfACountry();
         land();
         landBeginsAnew();
+        landOfAFullCountry();
         placeRoadCart();
         as();
         roadAs();
@@ -48,6 +49,7 @@ final class ToldTest {
         Check.due("write(97) beyond 160", x.write(97), FULL);
         Check.due("write(256) beyond 160", x.write(256), OUTSIDE);
         Check.due("count(10)", x.count(10), 160);
+        Check.due("fault() of 160 letters", x.fault(), 0);
         Check.due("erase()", x.erase(), 160);
         Check.due("count(10) behind erase()", x.count(10), 0);
         Check.due("write(97) behind erase()", x.write(97), 1);
@@ -74,6 +76,8 @@ final class ToldTest {
         faultOf("lan", 0);
         faultOf("landd", 0);
         faultOf("landland", 0);
+        faultOf("landz", 0);
+        faultOf("aland", 0);
         faultOf("Land", 0);
         faultOf("lanD", 0);
         faultOf("land;", 5);
@@ -157,6 +161,10 @@ final class ToldTest {
         faultOf(times(7, "city"), NONE);
         faultOf(times(8, "city"), 35);
         faultOf(times(7, "city") + ";land;city", NONE);
+        faultOf("calm" + " ".repeat(156), NONE);
+        faultOf("calm;" + " ".repeat(155), 160);
+        faultOf("calm;" + "z".repeat(155), 5);
+        faultOf("warm " + "1".repeat(155), 5);
         faultOf(times(2, "city") + ";" + times(9, "road 0 1 1"), NONE);
         faultOf(times(2, "city") + ";" + times(10, "road 0 1 1"), 109);
         faultOf(times(2, "city") + ";" + times(9, "road 0 1 1") + ";shaded", 109);
@@ -177,6 +185,28 @@ final class ToldTest {
         faultOn(x, "land;cart 0 0", 10);
         Check.due("count(0): fault() tells nothing", x.count(0), 2);
         Check.due("count(2): fault() tells nothing", x.count(2), 1);
+    }
+
+    /** What was told ahead of a land clause takes no room behind it, and is not seen there. */
+    private static void landOfAFullCountry() {
+        SnowCourse x = Check.told("city;city;" + times(9, "road 0 1 1"));
+        Check.tell(x, times(4, "cart 0 0") + ";" + times(5, "city"));
+        faultOn(x, "road 0 1 1", 0);
+        faultOn(x, "cart 0 1", 0);
+        faultOn(x, "city", 0);
+        faultOn(x, "land;city;city;" + times(9, "road 0 1 1"), NONE);
+        faultOn(x, "land;" + times(7, "city"), NONE);
+        faultOn(x, "land;city;" + times(4, "cart 0 1"), NONE);
+        x.erase();
+        Check.tell(x, "land;mountain;city;city;road 0 2 1;cart 0 0");
+        Check.due("place(0, 2)", x.place(0, 2), 1);
+        Check.due("place(0, 3)", x.place(0, 3), 1);
+        Check.due("comes(0, 1, 0)", x.comes(0, 1, 0), NONE);
+        Check.due("around(0, 1, 0)", x.around(0, 1, 0), NONE);
+        Check.due("drip(0, 1, 0)", x.drip(0, 1, 0), 0);
+        Check.due("go(0, 1)", x.go(0, 1), UNKNOWN);
+        Check.due("cart(1, 0)", x.cart(1, 0), UNKNOWN);
+        Check.due("place(3, 0)", x.place(3, 0), UNKNOWN);
     }
 
     private static void land() {
