@@ -402,7 +402,7 @@ final class DeedsEdgesTest {
 
     /** "whose HOUR is the lesser one RESTS till the HOUR of the other one"; "it is there still, without SNOW, in that HOUR, too". */
     private static void joinTillTheLaterHour() {
-        // The stamped one loses 6 - 2 = 4, then 4 of 36, 3 of 32, ..; the plain one 7 of 40, 6 of 33.
+        // The stamped one loses 7 - 2, then 6 - 2: 31; the plain one rests two hours: 40 33 27.
         for (int first = 0; first <= 1; first++) {
             int c = first;
             SnowCourse x = Check.told("mountain;cart 0 0;stamped 0 0");
@@ -410,7 +410,6 @@ final class DeedsEdgesTest {
             x.fill(1, 40);
             x.rest(1, 2);
             Check.due("cart(1, 4)", x.cart(1, 4), 31);
-            // 40 - 7 = 33, - 6 = 27
             Check.due("join(" + c + ", " + (1 - c) + ")", x.join(c, 1 - c), 58);
             for (int cart = 0; cart <= 1; cart++) {
                 Check.due("hour of cart " + cart, x.cart(cart, 3), 2);

@@ -14,8 +14,11 @@ final class ToldEdgesTest {
         anyLetterForItself();
         anyLetterBehindAWord();
         anyLetterBehindANumber();
+        anyLetterForANumber();
         words();
         theEndTooSoon();
+        theEndAheadOfOldLetters();
+        theEndOfAFullText();
         blanks();
         fourteenClauses();
         sevenPlaces();
@@ -194,6 +197,25 @@ final class ToldEdgesTest {
         }
     }
 
+    /** "a row of digits": no other letter is a number. */
+    private static void anyLetterForANumber() {
+        String[] heads = {"warm ", "city;city;road ", "city;city;road 0 ", "city;city;road 0 1 ", "city;cart ", "city;cart 0 "};
+        String[] well = {"0123456789", "0", "1", "123456", "0", "0123"};
+        String[] tails = {"", " 1 1", " 1", "", " 0", ""};
+        for (int i = 0; i < heads.length; i++) {
+            for (int letter = 0; letter <= 255; letter++) {
+                String text = heads[i] + (char) letter + tails[i];
+                // A second 1 would have its fault at B, not here.
+                if (letter != 32 && (i != 1 || letter != '1')) {
+                    faultOf(text, well[i].indexOf(letter) >= 0 ? NONE : heads[i].length());
+                }
+            }
+        }
+        faultOf("warm ab", 5);
+        faultOf("warm  ", 6);
+        faultOf("warm ;calm", 5);
+    }
+
     /** "each is one of: land. crossing. .. calm. (As written here, without points ..)". */
     private static void words() {
         String[] clauses = {"land", "crossing", "mountain", "cellar", "city", "road 0 1 1", "shaded 0 1 1",
@@ -226,6 +248,49 @@ final class ToldEdgesTest {
         faultOf("city;  ", 7);
         faultOf("warm   ", 7);
         faultOf("city;cart 0   ", 14);
+    }
+
+    /** "THE TEXT is empty": the end comes too soon, though letters that would go on stood there once. */
+    private static void theEndAheadOfOldLetters() {
+        String text = "city;city;old 1 3;road 0 1 6;warm 47";
+        int[] ends = {10, 13, 14, 15, 16, 18, 22, 23, 24, 25, 26, 27, 29, 33, 34};
+        for (int end : ends) {
+            SnowCourse x = new SnowCourse();
+            Check.write(x, text);
+            faultOn(x, text.substring(0, end), end);
+        }
+        SnowCourse y = Check.told("warm 47");
+        faultOn(y, "warm ", 5);
+        faultOn(y, "warm", 4);
+        faultOn(y, "war", 0);
+        faultOn(y, "warm 4", NONE);
+        Check.due("land()", y.land(), 1);
+        Check.due("pass of 9 behind hour 4", warmAlone(y, 4), 3);
+        Check.due("pass of 9 behind hour 5", warmAlone(y, 5), 5);
+    }
+
+    /** What of 9 pounds is left that wait in that hour: 5, and 3 if it is warm. */
+    private static int warmAlone(SnowCourse x, int hour) {
+        x.wipe();
+        x.put(9);
+        x.put(9);
+        return x.pass(hour, NONE) - 9;
+    }
+
+    /** "or at the end, if it comes too soon", where the text is full. */
+    private static void theEndOfAFullText() {
+        String[] tails = {";", ";city;city;road", ";city;city;road 0", ";city;city;road 0 1", ";city;cart", ";city;cart 0", ";warm"};
+        for (String tail : tails) {
+            faultOf("calm" + " ".repeat(156 - tail.length()) + tail, 160);
+            faultOf("calm" + " ".repeat(155 - tail.length()) + tail + " ", 160);
+        }
+        faultOf("calm" + " ".repeat(149) + ";warm 4", NONE);
+        faultOf("calm" + " ".repeat(148) + ";warm 47", NONE);
+        faultOf("calm" + " ".repeat(148) + ";warm 48", 158);
+        faultOf("calm" + " ".repeat(147) + ";warm 047", 157);
+        faultOf("calm" + " ".repeat(151) + ";city", NONE);
+        faultOf("calm" + " ".repeat(152) + ";cit", 157);
+        faultOf(" ".repeat(160), 160);
     }
 
     /** "blanks between". */
