@@ -39,6 +39,7 @@ final class DeedsEdgesTest {
         keep();
         back();
         backAndUndo();
+        theLastOf512Calls();
         Check.end();
     }
 
@@ -859,5 +860,18 @@ final class DeedsEdgesTest {
         Check.due("cart(0, 4)", x.cart(0, 4), 8);
         Check.due("undo()", x.undo(), NOT);
         Check.due("cart(0, 4)", x.cart(0, 4), 8);
+    }
+
+    /** "An object is used for at most 512 calls": it answers as ever up to the last one of them. */
+    private static void theLastOf512Calls() {
+        String text = "mountain;cart 0 0";
+        SnowCourse x = Check.told(text);
+        for (int call = text.length() + 3; call <= 512; call++) {
+            if (call % 2 == 0) {
+                Check.due("fill(0, 7), call " + call, x.fill(0, 7), 7);
+            } else {
+                Check.due("undo(), call " + call, x.undo(), 0);
+            }
+        }
     }
 }

@@ -10,7 +10,6 @@ final class DeedsTest {
         melting();
         join();
         storeAndTake();
-        storeToTheFull();
         sell();
         undo();
         undoEachDeed();
@@ -193,48 +192,6 @@ final class DeedsTest {
         Check.due("take above 99", y.take(1, 11), FULL);
         Check.due("take above 99, and above stock", y.take(1, 81), NOT);
         Check.due("take to 99", y.take(1, 10), 99);
-    }
-
-    private static void storeToTheFull() {
-        SnowCourse x = Check.told("mountain;cellar;road 0 1 1;stamped 0 3;stamped 0 3;stamped 0 3");
-        int stock = 0;
-        for (int i = 0; i < 60 && stock - root(stock) + 94 <= 999; i++) {
-            int cart = i % 3;
-            x.fill(cart, 99);
-            // 99 loses 9 - 1 - 3 = 5, or twice as much at noon.
-            int hour = x.cart(cart, 3);
-            int comes = hour % 24 >= 10 && hour % 24 <= 15 ? 89 : 94;
-            Check.due("go(" + cart + ", 0)", x.go(cart, 0), comes);
-            stock = stock - root(stock) + comes;
-            Check.due("store to " + stock, x.store(cart), stock);
-            x.go(cart, 0);
-        }
-        int room = 999 - stock + root(stock);
-        for (int more = 2; more >= 0; more--) {
-            bring(x, room + more);
-            Check.due("store to " + (999 + more), x.store(0), more > 0 ? FULL : 999);
-            Check.due("place(1, 1)", x.place(1, 1), more > 0 ? stock : 999);
-            Check.due("cart(0, 4)", x.cart(0, 4), more > 0 ? room + more : 0);
-        }
-    }
-
-    /** The first cart stands in the cellar with so many pounds, as it was kept or is kept now. */
-    private static void bring(SnowCourse x, int pounds) {
-        if (x.back(0) == NOT) {
-            x.keep(0);
-        }
-        for (int n = 1; n <= 99; n++) {
-            x.back(0);
-            x.fill(0, n);
-            if (x.go(0, 0) == pounds) {
-                return;
-            }
-        }
-        Check.due("an amount of which " + pounds + " come", 0, 1);
-    }
-
-    private static int root(int n) {
-        return (int) Math.sqrt(n);
     }
 
     private static void sell() {

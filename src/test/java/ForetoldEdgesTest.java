@@ -959,7 +959,11 @@ final class ForetoldEdgesTest {
 
     /** Each count at the most that the document allows. */
     private static void countAtTheMost() {
-        SnowCourse x = Worlds.full().fresh();
+        SnowCourse full = Worlds.full().fresh();
+        Check.due("count(0)", full.count(0), 7);
+        Check.due("count(1)", full.count(1), 9);
+        Check.due("count(2)", full.count(2), 4);
+        SnowCourse x = new SnowCourse();
         StringBuilder text = new StringBuilder();
         for (int hour = 0; hour < 48; hour++) {
             text.append(text.length() == 0 ? "" : ";").append("warm ").append(hour);
@@ -968,9 +972,6 @@ final class ForetoldEdgesTest {
                 text.setLength(0);
             }
         }
-        Check.due("count(0)", x.count(0), 7);
-        Check.due("count(1)", x.count(1), 9);
-        Check.due("count(2)", x.count(2), 4);
         Check.due("count(3)", x.count(3), 48);
         SnowCourse y = Check.told("mountain;cart 0 0;cart 0 0;cart 0 0;cart 0 0");
         for (int cart = 0; cart < 4; cart++) {

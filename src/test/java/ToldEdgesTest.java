@@ -351,11 +351,11 @@ final class ToldEdgesTest {
 
     /** "ROADS .. 9 at most"; "a tenth .. cannot stand there (at its word)". */
     private static void nineRoads() {
-        SnowCourse eight = Check.told("city;city;" + times(8, "road 0 1 1"));
-        SnowCourse nine = Check.told("city;city;" + times(9, "shaded 0 1 1"));
         for (String word : WORDS_OF_ROADS) {
+            SnowCourse eight = Check.told("city;city;" + times(8, "road 0 1 1"));
             faultOn(eight, word + " 0 1 1", NONE);
             faultOn(eight, word + " 0 1 1;" + word + " 0 1 1", word.length() + 7);
+            SnowCourse nine = Check.told("city;city;" + times(9, "shaded 0 1 1"));
             faultOn(nine, word + " 0 1 1", 0);
             faultOn(nine, "calm; " + word, 6);
             faultOn(nine, "land;city;city;" + times(9, word + " 0 1 1"), NONE);
